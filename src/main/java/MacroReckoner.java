@@ -504,7 +504,9 @@ public final class MacroReckoner {
             int longer = Math.max(used, other.used);
             int carry = 0;
             for (int i = 0; i < longer; i++) {
-                int sum = (i < used ? groups[i] : 0) + (i < other.used ? other.groups[i] : 0) + carry;
+                int here = i < used ? groups[i] : 0;
+                int there = i < other.used ? other.groups[i] : 0;
+                int sum = here + there + carry;
                 carry = sum >= BASE ? 1 : 0;
                 groups[i] = sum - carry * BASE;
             }
@@ -519,7 +521,8 @@ public final class MacroReckoner {
         void subtract(Whole other) {
             int borrow = 0;
             for (int i = 0; i < used; i++) {
-                int rest = groups[i] - (i < other.used ? other.groups[i] : 0) - borrow;
+                int there = i < other.used ? other.groups[i] : 0;
+                int rest = groups[i] - there - borrow;
                 borrow = rest < 0 ? 1 : 0;
                 groups[i] = rest + borrow * BASE;
             }
@@ -698,7 +701,7 @@ public final class MacroReckoner {
         }
     }
 
-    /** Reckons with numbers; what comes out stands in the result, and is right only without error. */
+    /** Reckons with numbers; an operation answers its error, or sets the result without one. */
     private static final class Arithmetic {
         // Newton's steps for a root of 140 digits are some twenty.
         private static final int MOST_STEPS = 1000;
@@ -824,7 +827,7 @@ public final class MacroReckoner {
             return scale;
         }
 
-        /** Makes ready two whole numbers whose quotient, cut, is the one with the scale asked for. */
+        /** Makes ready two whole numbers whose quotient, cut, is that of x and y with the scale. */
         private void align(Value x, Value y, int workScale) {
             int shift = workScale + y.scale - x.scale;
             left.become(x.whole);
@@ -923,7 +926,7 @@ public final class MacroReckoner {
         private int end = 0;
         private int length = 0;
 
-        /** Whether there is a command; in a text, where no more can follow, an unfinished one is. */
+        /** Whether there is a command; in a text nothing more can come, so there always is. */
         boolean read(Tape tape, boolean inText) {
             tape.skipSpaces();
             row = tape.row;

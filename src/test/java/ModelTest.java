@@ -1,0 +1,161 @@
+import java.util.Random;
+
+/** Many runs of calls, made by fixed seeds, answered by the program as by the model. */
+public final class ModelTest {
+    private static final int RUNS = 6000;
+    private static final int CALLS = 512;
+    private static final String COMMANDS = "+-*/%^vdrczKkpnfZXxq";
+
+    private final Random random;
+    private final MacroReckoner program = new MacroReckoner();
+    private final Model model = new Model();
+    private final StringBuilder story = new StringBuilder();
+    private int calls = 0;
+
+    private ModelTest(long seed) {
+        random = new Random(seed);
+        story.append("seed ").append(seed).append(':');
+    }
+
+    public static void main(String[] args) {
+        int runs = args.length > 0 ? Integer.parseInt(args[0]) : RUNS;
+        for (long seed = 1; seed <= runs; seed++) {
+            new ModelTest(seed).play();
+        }
+        Desk.close("ModelTest");
+    }
+
+    private void play() {
+        int style = random.nextInt(4);
+        while (calls < CALLS) {
+            type(style == 0 ? noise() : style == 1 ? sums() : style == 2 ? texts() : mixture());
+            if (random.nextInt(3) > 0) {
+                run(random.nextInt(4) == 0 ? 1 + random.nextInt(8) : 100);
+            }
+            if (random.nextInt(4) == 0) {
+                same("tear()", program.tear(), model.tear());
+            }
+            if (random.nextInt(60) == 0) {
+                same("drop()", program.drop(), model.drop());
+            }
+        }
+    }
+
+    private void same(String call, Object got, Object due) {
+        calls++;
+        Desk.same(story + " " + call, got, due);
+    }
+
+    private void type(String characters) {
+        story.append(' ').append(characters);
+        for (int i = 0; i < characters.length(); i++) {
+            char c = characters.charAt(i);
+            same("type(" + c + ")", program.type(c), model.type(c));
+        }
+    }
+
+    private void run(int commands) {
+        story.append(" run(").append(commands).append(')');
+        same("", program.run(commands), model.run(commands));
+        Desk.same(story + " depth()", program.depth(), model.depth());
+        Desk.same(story + " scale()", program.scale(), model.scale());
+        Desk.same(story + " running()", program.running(), model.running());
+        for (char r = 'a'; r <= 'z'; r++) {
+            Desk.same(story + " isText(" + r + ")", program.isText(r), model.isText(r));
+        }
+        Desk.same(story + " printed()", program.printed(), model.printed());
+        for (int p = -1; p <= model.printed(); p++) {
+            Desk.same(story + " charAt(" + p + ")", program.charAt(p), model.charAt(p));
+        }
+    }
+
+    private String noise() {
+        String alphabet = COMMANDS + "sl<>=sl<>=abcd0123456789._ []  ";
+        StringBuilder all = new StringBuilder();
+        int length = 1 + random.nextInt(12);
+        for (int i = 0; i < length; i++) {
+            int pick = random.nextInt(alphabet.length() + 1);
+            all.append(pick < alphabet.length() ? alphabet.charAt(pick) : (char) random.nextInt(300));
+        }
+        return all.toString();
+    }
+
+    private String digits(int length) {
+        StringBuilder all = new StringBuilder();
+        int way = random.nextInt(4);
+        for (int i = 0; i < length; i++) {
+            int digit = way == 0 ? 9 : way == 1 ? (i == 0 ? 1 : 0) : random.nextInt(10);
+            all.append((char) ('0' + digit));
+        }
+        return all.toString();
+    }
+
+    private String numeral() {
+        int before = random.nextInt(3) == 0 ? random.nextInt(62) : random.nextInt(5);
+        int behind = random.nextInt(3) == 0 ? random.nextInt(42) : random.nextInt(4);
+        if (random.nextInt(40) > 0) {
+            behind = Math.max(0, Math.min(behind, 60 - before));
+        }
+        String sign = random.nextInt(3) == 0 ? "_" : "";
+        String point = behind > 0 || random.nextInt(9) == 0 ? "." : "";
+        return sign + digits(before) + point + digits(behind) + " ";
+    }
+
+    private String sums() {
+        String ready = random.nextInt(6) == 0 ? random.nextInt(42) + "k" : "";
+        String clear = random.nextInt(4) == 0 ? "c" : "";
+        switch (random.nextInt(6)) {
+            case 0: return ready + numeral() + numeral() + "^p" + clear;
+            case 1: return ready + numeral() + (random.nextInt(240) - 120) / 2 + " ^p" + clear;
+            case 2: return ready + numeral() + "vp" + clear;
+            case 3: return ready + numeral() + (random.nextInt(9) == 0 ? "k" : "d*p") + clear;
+            default: return ready + numeral() + numeral() + "+-*/%*/%".charAt(random.nextInt(8)) + "p" + clear;
+        }
+    }
+
+    private char register() {
+        return (char) ('a' + random.nextInt(4));
+    }
+
+    private String body(int depth) {
+        StringBuilder all = new StringBuilder();
+        int parts = random.nextInt(4);
+        for (int i = 0; i < parts; i++) {
+            switch (random.nextInt(10)) {
+                case 0: all.append(random.nextInt(20)); break;
+                case 1: all.append("l").append(register()).append("x"); break;
+                case 2: all.append("l").append(register()); break;
+                case 3: all.append(random.nextInt(3)).append(' ').append(random.nextInt(3))
+                    .append("<>=".charAt(random.nextInt(3))).append(register()); break;
+                case 4: all.append(depth < 3 ? "[" + body(depth + 1) + "]" : " "); break;
+                case 5: all.append(COMMANDS.charAt(random.nextInt(COMMANDS.length()))); break;
+                case 6: all.append("  "); break;
+                case 7: all.append("s").append(register()); break;
+                case 8: all.append("_ . [] q ] s <".charAt(random.nextInt(14))); break;
+                default: all.append("x"); break;
+            }
+        }
+        return all.toString();
+    }
+
+    private String texts() {
+        switch (random.nextInt(8)) {
+            case 0: return "[" + body(0) + "]s" + register();
+            case 1: return "l" + register() + "x";
+            case 2: return "[" + body(0) + "l" + register() + "x" + body(0) + "]s" + register();
+            case 3: return random.nextInt(3) + " " + random.nextInt(3) + "<>=".charAt(random.nextInt(3)) + register();
+            case 4: return "f";
+            case 5: return "c[" + body(0) + "]x";
+            case 6: return body(0);
+            default: return "[" + body(0) + "]";
+        }
+    }
+
+    private String mixture() {
+        switch (random.nextInt(4)) {
+            case 0: return noise();
+            case 1: return sums();
+            default: return texts();
+        }
+    }
+}

@@ -1,0 +1,46 @@
+import java.lang.management.ManagementFactory;
+
+/** All calls of a run share one room: only the constructor may take up any of it. */
+public final class RoomTest {
+    // Below one byte for each command that is done here; a single object has sixteen.
+    private static final long MOST_BYTES = 40000;
+
+    public static void main(String[] args) {
+        MacroReckoner reckoner = new MacroReckoner();
+        use(reckoner);
+        long before = allocated();
+        MacroReckoner other = new MacroReckoner();
+        long made = allocated() - before;
+        before = allocated();
+        use(other);
+        long used = allocated() - before;
+        Desk.same("an object takes at most 40000 bytes (" + made + ")", made <= 40000, true);
+        Desk.same("its calls take next to none (" + used + ")", used <= MOST_BYTES, true);
+        Desk.close("RoomTest");
+    }
+
+    private static long allocated() {
+        com.sun.management.ThreadMXBean threads =
+            (com.sun.management.ThreadMXBean) ManagementFactory.getThreadMXBean();
+        return threads.getThreadAllocatedBytes(Thread.currentThread().getId());
+    }
+
+    private static void use(MacroReckoner reckoner) {
+        type(reckoner, "40k[c2v_3 7/1.01 50^*_2^1 3%[t]Zn3 2>b lax]salax");
+        int goesOn = 0;
+        for (int i = 0; i < 400; i++) {
+            goesOn += reckoner.run(100) == MacroReckoner.MORE ? 1 : 0;
+            reckoner.tear();
+            reckoner.running();
+        }
+        if (goesOn != 400) {
+            throw new IllegalStateException("the program to measure has stopped");
+        }
+    }
+
+    private static void type(MacroReckoner reckoner, String characters) {
+        for (int i = 0; i < characters.length(); i++) {
+            reckoner.type(characters.charAt(i));
+        }
+    }
+}
