@@ -112,7 +112,7 @@ public final class MacroReckoner {
 
     public int tear() {
         int had = paper.length;
-        paper.length = 0;
+        paper.clear();
         return had;
     }
 
@@ -136,7 +136,7 @@ public final class MacroReckoner {
     private boolean takeToken() {
         boolean found = findToken();
         if (found) {
-            source().at += token.length;
+            source().take(token.length);
         }
         return found;
     }
@@ -573,7 +573,6 @@ public final class MacroReckoner {
                 used = divisor.used;
             }
             quotient.trim();
-            trim();
             divideBySmall(stretch);
             divisor.divideBySmall(stretch);
         }
@@ -603,9 +602,7 @@ public final class MacroReckoner {
                 groups[place + i] = (int) Math.floorMod(carry, (long) BASE);
                 carry = Math.floorDiv(carry, (long) BASE);
             }
-            boolean tooMuch = groups[place + divisor.used] + carry < 0;
-            groups[place + divisor.used] = 0;
-            return tooMuch;
+            return groups[place + divisor.used] + carry < 0;
         }
 
         private void giveBack(Whole divisor, int place) {
@@ -882,6 +879,10 @@ public final class MacroReckoner {
             return true;
         }
 
+        void take(int count) {
+            at += count;
+        }
+
         void fill(char[] from, int length) {
             System.arraycopy(from, 0, row, 0, length);
             at = 0;
@@ -1015,6 +1016,10 @@ public final class MacroReckoner {
 
         int room() {
             return MOST_PRINTED - length;
+        }
+
+        void clear() {
+            length = 0;
         }
 
         void put(char c) {

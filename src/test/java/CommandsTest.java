@@ -16,6 +16,7 @@ public final class CommandsTest {
         products();
         quotients();
         remainders();
+        hardDivisions();
         powers();
         longPowers();
         powersBelowZero();
@@ -191,6 +192,26 @@ public final class CommandsTest {
         reckons("40k" + NINES_60 + " 8%X", "40");
     }
 
+    private static void hardDivisions() {
+        // Dividends at which a guess from the first digits is one or two too great.
+        String[][] rows = {
+            {"61728394500000000000000000123456788", "500000000000000000000000001", "123456788",
+                "500000000000000000000000000"},
+            {"61728394500000000000000000123456784", "500000000000000000000000001", "123456788",
+                "499999999999999999999999996"},
+            {"2962962963000000006913580246", "3000000000000000007", "987654320", "3000000000000000006"},
+            {"500000000749999998500000000", "500000000999999999", "999999999", "250000000499999999"},
+            {"500000000999999998999999999", "500000000999999999", "999999999", "500000000999999998"},
+            {"500000000499999998000000000", "500000000999999999", "999999998", "500000000999999998"},
+            {"499999999499999996000000003", "500000000999999999", "999999997", "0"},
+            {"499999999499999996000000002", "500000000999999999", "999999996", "500000000999999998"},
+        };
+        for (String[] row : rows) {
+            reckons(row[0] + " " + row[1] + "/", row[2]);
+            reckons(row[0] + " " + row[1] + "%", row[3]);
+        }
+    }
+
     private static void powers() {
         reckons("2 10^", "1024");
         reckons("_2 3^", "-8");
@@ -223,6 +244,8 @@ public final class CommandsTest {
         fails("1.00000 40 ", "^", MacroReckoner.SIZE);
         reckons(".00001 40^X", "5");
         fails(".00001 41 ", "^", MacroReckoner.SIZE);
+        reckons("9.999 50^Z", "53");
+        fails("9.999 51 ", "^", MacroReckoner.SIZE);
         reckons("0.00000 40^X", "5");
         fails("0.00000 41 ", "^", MacroReckoner.SIZE);
         fails(NINES_60 + " 99 ", "^", MacroReckoner.SIZE);
@@ -434,7 +457,33 @@ public final class CommandsTest {
         new Desk().does("_.005p").paper("-.005\n").depth(1);
         new Desk().does("[]p").paper("\n").depth(1);
         new Desk().does("f").paper("").does("1[b]3.0f").paper("3.0\nb\n1\n").depth(3);
+        roomForNumbers();
         reckons("1000000000000000000.000000001", "1000000000000000000.000000001");
         reckons("123456789012345678901234567890", "123456789012345678901234567890");
+    }
+
+    private static void roomForNumbers() {
+        String[][] rows = {
+            {"0.00", "0"}, {"_7", "-7"}, {".5", ".5"}, {"_.5", "-.5"}, {"_.05", "-.05"}, {"1.5", "1.5"},
+            {"_12.50", "-12.50"}, {"[]", ""}, {"[ab]", "ab"},
+        };
+        for (String[] row : rows) {
+            for (int room = 0; room <= 8; room++) {
+                int left = 200 - room;
+                String first = "[" + Desk.times("a", 60) + "]ddnnn";
+                String second = "[" + Desk.times("b", left - 180) + "]n";
+                String due = Desk.times("a", 180) + Desk.times("b", left - 180);
+                boolean fits = row[1].length() <= room;
+                boolean lineFits = row[1].length() + 1 <= room;
+                new Desk().does(first).does(second + row[0] + " ")
+                    .gives("n", fits ? MacroReckoner.IDLE : MacroReckoner.OVER)
+                    .depth(fits ? 0 : 1).paper(fits ? due + row[1] : due);
+                for (String command : new String[] {"p", "f"}) {
+                    new Desk().does(first).does(second + row[0] + " ")
+                        .gives(command, lineFits ? MacroReckoner.IDLE : MacroReckoner.OVER)
+                        .depth(1).paper(lineFits ? due + row[1] + "\n" : due);
+                }
+            }
+        }
     }
 }

@@ -4,6 +4,9 @@ import java.util.Random;
 public final class ModelTest {
     private static final int RUNS = 6000;
     private static final int CALLS = 512;
+    private static final String[] HARD = {
+        "000000000", "000000000", "000000001", "999999999", "500000000", "499999999", "999999998"
+    };
     private static final String COMMANDS = "+-*/%^vdrczKkpnfZXxq";
 
     private final Random random;
@@ -80,9 +83,21 @@ public final class ModelTest {
         return all.toString();
     }
 
+    /** Groups of nine digits at which a long division goes wrong most easily. */
+    private String hardDigits(int length) {
+        StringBuilder all = new StringBuilder();
+        while (all.length() < length) {
+            all.insert(0, HARD[random.nextInt(HARD.length)]);
+        }
+        return all.substring(all.length() - length);
+    }
+
     private String digits(int length) {
         StringBuilder all = new StringBuilder();
-        int way = random.nextInt(4);
+        int way = random.nextInt(5);
+        if (way == 4) {
+            return hardDigits(length);
+        }
         for (int i = 0; i < length; i++) {
             int digit = way == 0 ? 9 : way == 1 ? (i == 0 ? 1 : 0) : random.nextInt(10);
             all.append((char) ('0' + digit));
@@ -101,10 +116,19 @@ public final class ModelTest {
         return sign + digits(before) + point + digits(behind) + " ";
     }
 
+    private String nearMultiple() {
+        String divisor = hardDigits(1 + random.nextInt(35)) + "sb";
+        String product = "lb" + hardDigits(1 + random.nextInt(25)) + "*";
+        String[] more = {"", "1+", "1-", "5-", "lb2/+", "lb+1-"};
+        return divisor + product + more[random.nextInt(more.length)] + "lb";
+    }
+
     private String sums() {
         String ready = random.nextInt(6) == 0 ? random.nextInt(42) + "k" : "";
         String clear = random.nextInt(4) == 0 ? "c" : "";
-        switch (random.nextInt(6)) {
+        switch (random.nextInt(8)) {
+            case 6: return "0k" + nearMultiple() + "/p" + clear;
+            case 7: return "0k" + nearMultiple() + "%p" + clear;
             case 0: return ready + numeral() + numeral() + "^p" + clear;
             case 1: return ready + numeral() + (random.nextInt(240) - 120) / 2 + " ^p" + clear;
             case 2: return ready + numeral() + "vp" + clear;
