@@ -30,6 +30,9 @@ public final class MacroReckoner {
     private static final int MOST_POWER = 200;
     private static final int REGISTERS = 26;
     private static final char LINE_END = 10;
+    private static final String TAKE_TWO = "+-*/%^r<>=";
+    private static final String TAKE_ONE = "vdkpnZXsx";
+    private static final String TAKE_NUMBERS = "+-*/%^vk<>=";
 
     private final Tape input = new Tape(MOST_INPUT);
     private final Tape[] texts = new Tape[MOST_TEXTS_RUN];
@@ -65,7 +68,10 @@ public final class MacroReckoner {
         }
         int error = DONE;
         for (int done = 0; done < commands && error == DONE && takeToken(); done++) {
-            error = obey(token.command);
+            error = whatIsMissing(token.command);
+            if (error == DONE) {
+                error = perform(token.command);
+            }
         }
         if (error != DONE) {
             textsRun = 0;
@@ -148,13 +154,29 @@ public final class MacroReckoner {
         return input.isBlank() ? IDLE : WAITS;
     }
 
-    private int obey(char command) {
+    // What a command takes is looked at here alone: those that perform it rely on that.
+    private int whatIsMissing(char command) {
+        int needed = TAKE_TWO.indexOf(command) >= 0 ? 2 : TAKE_ONE.indexOf(command) >= 0 ? 1 : 0;
+        if (height < needed) {
+            return EMPTY;
+        }
+        if (TAKE_NUMBERS.indexOf(command) >= 0) {
+            for (int i = height - needed; i < height; i++) {
+                if (stack[i].text) {
+                    return TYPE;
+                }
+            }
+        }
+        return DONE;
+    }
+
+    private int perform(char command) {
         switch (command) {
             case Token.NUMERAL: return pushNumeral();
             case '[': return pushText();
             case '+': case '-': case '*': case '/': case '%': case '^': return calculate(command);
             case 'v': return takeRoot();
-            case 'd': return height == 0 ? EMPTY : push(stack[height - 1]);
+            case 'd': return push(stack[height - 1]);
             case 'r': return swap();
             case 'c': return clearStack();
             case 'z': return pushCount(height);
@@ -203,14 +225,8 @@ public final class MacroReckoner {
     }
 
     private int calculate(char command) {
-        if (height < 2) {
-            return EMPTY;
-        }
         Value x = stack[height - 2];
         Value y = stack[height - 1];
-        if (x.text || y.text) {
-            return TYPE;
-        }
         int error;
         switch (command) {
             case '+': error = arithmetic.sum(x, y, y.negative); break;
@@ -228,13 +244,7 @@ public final class MacroReckoner {
     }
 
     private int takeRoot() {
-        if (height == 0) {
-            return EMPTY;
-        }
         Value x = stack[height - 1];
-        if (x.text) {
-            return TYPE;
-        }
         int error = arithmetic.root(x, workScale);
         if (error == DONE) {
             x.become(result);
@@ -243,9 +253,6 @@ public final class MacroReckoner {
     }
 
     private int swap() {
-        if (height < 2) {
-            return EMPTY;
-        }
         Value top = stack[height - 1];
         stack[height - 1] = stack[height - 2];
         stack[height - 2] = top;
@@ -258,13 +265,7 @@ public final class MacroReckoner {
     }
 
     private int takeScale() {
-        if (height == 0) {
-            return EMPTY;
-        }
         Value x = stack[height - 1];
-        if (x.text) {
-            return TYPE;
-        }
         // Two digits first: the lowest group alone tells nothing of a longer number.
         if (x.scale != 0 || x.negative || x.whole.size() > 2 || x.whole.lowest() > MOST_SCALE) {
             return RANGE;
@@ -275,9 +276,6 @@ public final class MacroReckoner {
     }
 
     private int printTop() {
-        if (height == 0) {
-            return EMPTY;
-        }
         Value top = stack[height - 1];
         if (top.printLength() + 1 > paper.room()) {
             return OVER;
@@ -288,9 +286,6 @@ public final class MacroReckoner {
     }
 
     private int printAndTake() {
-        if (height == 0) {
-            return EMPTY;
-        }
         Value top = stack[height - 1];
         if (top.printLength() > paper.room()) {
             return OVER;
@@ -316,9 +311,6 @@ public final class MacroReckoner {
     }
 
     private int measure(boolean ofSize) {
-        if (height == 0) {
-            return EMPTY;
-        }
         Value top = stack[height - 1];
         if (top.text) {
             top.becomeCount(ofSize ? top.length : 0);
@@ -329,18 +321,12 @@ public final class MacroReckoner {
     }
 
     private int store(Value register) {
-        if (height == 0) {
-            return EMPTY;
-        }
         register.become(stack[height - 1]);
         height--;
         return DONE;
     }
 
     private int runTop() {
-        if (height == 0) {
-            return EMPTY;
-        }
         Value top = stack[height - 1];
         if (!top.text) {
             return DONE;
@@ -353,14 +339,8 @@ public final class MacroReckoner {
     }
 
     private int choose(char command, Value register) {
-        if (height < 2) {
-            return EMPTY;
-        }
         Value x = stack[height - 2];
         Value y = stack[height - 1];
-        if (x.text || y.text) {
-            return TYPE;
-        }
         int order = arithmetic.order(y, x);
         boolean holds = command == '<' ? order < 0 : command == '>' ? order > 0 : order == 0;
         int error = holds && register.text ? beginText(register) : DONE;
