@@ -15,6 +15,7 @@ public final class FaceTest {
     public static void main(String[] args) throws IOException {
         members();
         constants();
+        values();
         nestedClasses();
         source();
         Desk.close("FaceTest");
@@ -78,6 +79,16 @@ public final class FaceTest {
         }
         Desk.same("the open constants", open, due);
         Desk.same("at most twenty fields", own <= 20, true);
+    }
+
+    private static void values() {
+        int[] due = {0, 1, 2, -1, -2, -3, -4, -5, -6, -7, -8, -9, -10};
+        int[] got = {MacroReckoner.IDLE, MacroReckoner.MORE, MacroReckoner.WAITS, MacroReckoner.BAD,
+            MacroReckoner.EMPTY, MacroReckoner.TYPE, MacroReckoner.RANGE, MacroReckoner.ZERO, MacroReckoner.ROOT,
+            MacroReckoner.SIZE, MacroReckoner.FULL, MacroReckoner.DEEP, MacroReckoner.OVER};
+        for (int i = 0; i < due.length; i++) {
+            Desk.same("constant " + i, got[i], due[i]);
+        }
     }
 
     private static void nestedClasses() {

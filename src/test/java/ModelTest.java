@@ -2,8 +2,9 @@ import java.util.Random;
 
 /** Many runs of calls, made by fixed seeds, answered by the program as by the model. */
 public final class ModelTest {
-    private static final int RUNS = 6000;
-    private static final int CALLS = 512;
+    private static final int RUNS = 20000;
+    /** The longest piece that is typed has some 140 characters; then something is asked. */
+    private static final int LAST_CALLS = 190;
     private static final String[] HARD = {
         "000000000", "000000000", "000000001", "999999999", "500000000", "499999999", "999999998"
     };
@@ -30,7 +31,7 @@ public final class ModelTest {
 
     private void play() {
         int style = random.nextInt(4);
-        while (calls < CALLS) {
+        while (calls < Desk.MOST_CALLS - LAST_CALLS) {
             type(style == 0 ? noise() : style == 1 ? sums() : style == 2 ? texts() : mixture());
             if (random.nextInt(3) > 0) {
                 run(random.nextInt(4) == 0 ? 1 + random.nextInt(8) : 100);
@@ -42,34 +43,51 @@ public final class ModelTest {
                 same("drop()", program.drop(), model.drop());
             }
         }
+        askAll();
+        Desk.same(story + " stays within its calls", calls <= Desk.MOST_CALLS, true);
     }
 
-    private void same(String call, Object got, Object due) {
+    private void same(String call, int got, int due) {
         calls++;
-        Desk.same(story + " " + call, got, due);
+        // The story is long: it is told only where it is needed.
+        Desk.same(got == due ? call : story + " " + call, got, due);
+    }
+
+    private void same(String call, boolean got, boolean due) {
+        same(call, got ? 1 : 0, due ? 1 : 0);
     }
 
     private void type(String characters) {
         story.append(' ').append(characters);
         for (int i = 0; i < characters.length(); i++) {
             char c = characters.charAt(i);
-            same("type(" + c + ")", program.type(c), model.type(c));
+            same("type", program.type(c), model.type(c));
         }
     }
 
     private void run(int commands) {
         story.append(" run(").append(commands).append(')');
         same("", program.run(commands), model.run(commands));
-        Desk.same(story + " depth()", program.depth(), model.depth());
-        Desk.same(story + " scale()", program.scale(), model.scale());
-        Desk.same(story + " running()", program.running(), model.running());
+        same("depth()", program.depth(), model.depth());
+        same("scale()", program.scale(), model.scale());
+        same("running()", program.running(), model.running());
+        same("printed()", program.printed(), model.printed());
+        char register = register();
+        same("isText", program.isText(register), model.isText(register));
+        int p = model.printed() - 1 - random.nextInt(9);
+        same("charAt", program.charAt(p), model.charAt(p));
+    }
+
+    private void askAll() {
+        run(100);
         for (char r = 'a'; r <= 'z'; r++) {
-            Desk.same(story + " isText(" + r + ")", program.isText(r), model.isText(r));
+            same("isText", program.isText(r), model.isText(r));
         }
-        Desk.same(story + " printed()", program.printed(), model.printed());
-        for (int p = -1; p <= model.printed(); p++) {
-            Desk.same(story + " charAt(" + p + ")", program.charAt(p), model.charAt(p));
+        for (int p = 0; p < model.printed() && calls < Desk.MOST_CALLS - 2; p++) {
+            same("charAt", program.charAt(p), model.charAt(p));
         }
+        same("tear()", program.tear(), model.tear());
+        same("drop()", program.drop(), model.drop());
     }
 
     private String noise() {
