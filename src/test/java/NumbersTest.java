@@ -35,6 +35,7 @@ public final class NumbersTest {
         roots();
         rootsOfSize60();
         scaleToBeWorkedWith();
+        afterLongNumbers();
         Desk.close("NumbersTest");
     }
 
@@ -479,6 +480,36 @@ public final class NumbersTest {
         for (String wrong : new String[] {"41", "42", "_1", "_40", "100", "1.0", "0.0", "40.0", ".5", "256", "4294967296",
             "1000000000", "1000000007", "1000000000000000040", NINES_60, LEAST}) {
             fails("7k" + wrong + " ", "k", MacroReckoner.RANGE);
+        }
+    }
+
+    /** Rows are used again: what a long number left behind must not show in a short one's result. */
+    private static void afterLongNumbers() {
+        Desk.says("A NUMBER is a whole number W, of either sign, with a SCALE s, 0 .. 40: it stands for W / 10^s.");
+        String[][] rows = {
+            {"3 4+", "7"}, {"4 3-", "1"}, {"3 4-", "-1"}, {"1000000000 1-", "999999999"},
+            {"1000000000000000000 1+", "1000000000000000001"}, {"1 1000000000000000000+", "1000000000000000001"},
+            {"1000000000000000000 1-", "999999999999999999"}, {"3 1000000007*", "3000000021"},
+            {"1000000007 3*", "3000000021"}, {"3 4*", "12"}, {"7 2/", "3"}, {"7 2%", "1"},
+            {"1000000000000000000 7/", "142857142857142857"}, {"1000000000000000000 7%", "1"},
+            {"1000000000000000000000 1000000001/", "999999999000"}, {"2 3^", "8"}, {"2 40^", "1099511627776"},
+            {"0v", "0"}, {"0.00v", "0"}, {"16v", "4"}, {"2 _1^", "0"}, {".0000000000000001", ".0000000000000001"},
+            {"0.00000000005 1*", ".00000000005"}, {"1.5 1.5*", "2.2"}, {"1 3." + ZEROS_39 + "-", "-2." + ZEROS_39},
+        };
+        String[] before = {
+            NINES_60 + "d " + NINES_60 + " c", NINES_60 + "d/c " + NINES_60 + " 7%c", NINES_60 + "vc",
+            NINES_30 + "d*c " + NINES_30 + " 1+c", "0.99999 40^c", "9.999 50^c",
+            NINES_60 + " " + NINES_30 + "/c" + NINES_60 + " " + NINES_30 + "%c", NINES_60 + " 1-c",
+        };
+        for (String left : before) {
+            for (String[] row : rows) {
+                new Desk().does(left + " ").does(row[0] + "n").depth(0).paper(row[1]);
+            }
+        }
+        // What a new register holds is 0, not something just below it.
+        new Desk().does("[[same]n]sb0la=bla0=blav0=b").paper("samesamesame");
+        for (char r = 'a'; r <= 'z'; r++) {
+            new Desk().does("l" + r + "vn").paper("0");
         }
     }
 }
