@@ -11,6 +11,7 @@ import java.util.TreeSet;
 /** The public face, and those of the language's rules that can be read off the class and its file. */
 public final class FaceTest {
     private static final Path FILE = Path.of("src/main/java/MacroReckoner.java");
+    private static final String IMPORTS = "import java\\.util\\.(ArrayList|List|Arrays|Iterator|NoSuchElementException);";
 
     public static void main(String[] args) throws IOException {
         members();
@@ -102,12 +103,21 @@ public final class FaceTest {
     }
 
     private static void source() throws IOException {
-        String[] never = {"import ", "package ", "->", "::", "finally", "synchronized", "assert ",
-            "System.out", "System.err", "currentTimeMillis", "nanoTime", "Random", "Thread", "float", "double"};
+        String[] never = {"package ", "::", "finally", "synchronized", "assert ", "static {", "Exact(", "getMessage",
+            "System.out", "System.err", "currentTimeMillis", "nanoTime", "Random", "Thread"};
         String text = Files.readString(FILE);
         for (String word : never) {
             Desk.same("the file has " + word, text.contains(word), false);
         }
+        for (String line : text.split("\n")) {
+            boolean wrongImport = line.startsWith("import ") && !line.matches(IMPORTS);
+            boolean lambda = line.contains("->") && !line.matches(" *(case|default)\\b.*");
+            Desk.same("the language has no " + line, wrongImport || lambda, false);
+        }
+        methodsAreShort(text);
+    }
+
+    private static void methodsAreShort(String text) {
         int longest = 0;
         int start = 0;
         int number = 0;

@@ -8,6 +8,7 @@ public final class StackTest {
     public static void main(String[] args) {
         twenty();
         order();
+        taken();
         doubling();
         exchange();
         clearing();
@@ -52,6 +53,25 @@ public final class StackTest {
         new Desk().does("1 2[t]").stack("t 2 1 ").does("nn").paper("t2").depth(1);
         new Desk().does("7 2-n").paper("5");
         new Desk().does("7 2/n").paper("3");
+    }
+
+    private static void taken() {
+        Desk.says("(in brackets: what they take from the stack, the top one last)");
+        // Made ready, the command, what it leaves above the two that lie below, what it prints.
+        String[][] rows = {
+            {"", "5 ", "5 ", ""}, {"", "[t]", "t ", ""}, {"7 2 ", "+", "9 ", ""}, {"7 2 ", "-", "5 ", ""},
+            {"7 2 ", "*", "14 ", ""}, {"7 2 ", "/", "3 ", ""}, {"7 2 ", "%", "1 ", ""}, {"7 2 ", "^", "49 ", ""},
+            {"9 ", "v", "3 ", ""}, {"5 ", "d", "5 5 ", ""}, {"5 6 ", "r", "5 6 ", ""}, {"", "z", "2 ", ""},
+            {"", "K", "0 ", ""}, {"3 ", "k", "", ""}, {"5 ", "p", "5 ", "5\n"}, {"5 ", "n", "", "5"},
+            {"5 ", "f", "5 ", "5\n8.0\nlow\n"}, {"55 ", "Z", "2 ", ""}, {"5.5 ", "X", "1 ", ""},
+            {"5 ", "sa", "", ""}, {"", "la", "0 ", ""}, {"[1 2]", "x", "2 1 ", ""}, {"5 ", "x", "5 ", ""},
+            {"1 2 ", "<t", "", ""}, {"2 1 ", "<t", "yes ", ""}, {"2 1 ", ">t", "", ""}, {"1 2 ", ">t", "yes ", ""},
+            {"1 2 ", "=t", "", ""}, {"2 2 ", "=t", "yes ", ""}, {"", "q", "", ""},
+        };
+        for (String[] row : rows) {
+            new Desk().does("[[yes]]st[low]8.0 " + row[0]).does(row[1]).paper(row[3]).stack(row[2] + "8.0 low ");
+        }
+        new Desk().does("[low]8.0 c").depth(0);
     }
 
     private static void doubling() {

@@ -6,6 +6,7 @@ final class Desk {
     private static int checks = 0;
     private static int wrong = 0;
     private static String sentence = "";
+    private static int sentenceChecks = 0;
 
     private final MacroReckoner reckoner = new MacroReckoner();
     private final StringBuilder story = new StringBuilder();
@@ -13,11 +14,22 @@ final class Desk {
 
     /** The words of the document to which the checks from here on belong. */
     static void says(String words) {
+        endSentence();
         sentence = words;
+    }
+
+    /** A sentence that is quoted but not looked at would only seem to be tested. */
+    private static void endSentence() {
+        if (!sentence.isEmpty() && sentenceChecks == 0) {
+            wrong++;
+            System.out.println("\"" + sentence + "\": nothing is checked");
+        }
+        sentenceChecks = 0;
     }
 
     static void same(String what, Object got, Object due) {
         checks++;
+        sentenceChecks++;
         if (!got.equals(due)) {
             wrong++;
             System.out.println("\"" + sentence + "\": " + what + " answered " + got + ", due is " + due);
@@ -26,6 +38,7 @@ final class Desk {
 
     /** Ends the test's program, with exit code 1 if an answer was not as due. */
     static void close(String test) {
+        endSentence();
         System.out.println(test + ": " + checks + " checks, " + wrong + " wrong");
         System.exit(wrong == 0 && checks > 0 ? 0 : 1);
     }
